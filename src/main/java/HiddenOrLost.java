@@ -60,8 +60,9 @@ public final class HiddenOrLost {
     private static final int AT_END = 0;
     private static final int TOO_LONG = 1;
     private static final int UNKNOWN = 2;
-    private static final int WORD = 3;
-    private static final int NUMBER = 4;
+    private static final int NAME = 3;
+    private static final int KNOWN_WORD = 4;
+    private static final int NUMBER = 5;
 
     // Each word ends with a blank; its place among them is its number, so words of one sort stand together.
     private static final String WORDS = "field person find fear hint prior gets risk coin pot lid bone hidden lost buried king finder owner digs told sold laid given plough night or and not ground found of year value deep number ";
@@ -626,33 +627,36 @@ public final class HiddenOrLost {
         return yearOfCoin(ahead - 1) - yearOfCoin(0) + yearOfCoin(n - 1) - yearOfCoin(ahead);
     }
 
-    /** The bytes that were fed, and the token at which their reader stands. */
+    /** The bytes that were fed, the tokens of the text that they are, and the token at which its reader stands. */
     private static final class Tape {
         private final byte[] bytes = new byte[MOST_TAPE];
         private final long[] words = new long[WORD_COUNT];
+        private final int[] types = new int[MOST_FIELD + 1];
+        private final int[] places = new int[MOST_FIELD + 1];
+        private final long[] values = new long[MOST_FIELD + 1];
         private int length = 0;
-        private int most = 0;
         private int place = 0;
+        private int last = 0;
+        private int next = 0;
         private int type = AT_END;
-        private int at = 0;
-        private int number = 0;
-        private long code = 0;
+        private long value = 0;
         private int word = NONE;
         private int taken = 0;
+        private int at = 0;
         private int faultKind = 0;
         private int faultAt = 0;
 
         Tape() {
             int n = 0;
-            long wordCode = 0;
+            long code = 0;
             for (int i = 0; i < WORDS.length() && n < WORD_COUNT; i++) {
                 char sign = WORDS.charAt(i);
                 if (sign == ' ') {
-                    words[n] = wordCode;
+                    words[n] = code;
                     n++;
-                    wordCode = 0;
+                    code = 0;
                 } else {
-                    wordCode = withLetter(wordCode, sign);
+                    code = withLetter(code, sign);
                 }
             }
         }
@@ -671,38 +675,47 @@ public final class HiddenOrLost {
             }
         }
 
-        void begin(int mostBytes) {
-            most = mostBytes;
+        /** Cuts the text into tokens, as far as they begin within its most bytes, and stands at the first of them. */
+        void begin(int most) {
+            int n = 0;
             place = 0;
+            skipBlanks();
+            while (n < MOST_FIELD && place < length && place < most) {
+                places[n] = place;
+                readToken(n);
+                n++;
+                skipBlanks();
+            }
+            types[n] = length > most ? TOO_LONG : AT_END;
+            places[n] = Math.min(length, most);
+            last = n;
+            next = 0;
             faultKind = 0;
             faultAt = 0;
             step();
         }
 
-        void step() {
+        private void skipBlanks() {
             while (place < length && (bytes[place] == 32 || bytes[place] == 10)) {
-                place++;
-            }
-            at = place;
-            word = NONE;
-            if (length > most && place >= most) {
-                at = most;
-                type = TOO_LONG;
-            } else if (place >= length) {
-                type = AT_END;
-            } else if (goesOn(bytes[place])) {
-                readRun();
-            } else {
-                type = isSign(bytes[place]) ? bytes[place] : UNKNOWN;
                 place++;
             }
         }
 
-        private void readRun() {
+        private void readToken(int n) {
+            int sign = bytes[place];
+            if (goesOn(sign)) {
+                readRun(n);
+            } else {
+                types[n] = isSign(sign) ? sign : UNKNOWN;
+                place++;
+            }
+        }
+
+        private void readRun(int n) {
             int letters = 0;
             int digits = 0;
-            number = 0;
-            code = 0;
+            int number = 0;
+            long code = 0;
             while (place < length && goesOn(bytes[place])) {
                 int sign = bytes[place];
                 if (isDigit(sign)) {
@@ -715,16 +728,29 @@ public final class HiddenOrLost {
                 place++;
             }
             if (digits == 0 && letters <= MOST_LETTERS) {
-                type = WORD;
-                word = wordOf(code);
+                int known = wordOf(code);
+                types[n] = known == NONE ? NAME : KNOWN_WORD;
+                values[n] = known == NONE ? code : known;
             } else {
-                type = letters == 0 && digits <= MOST_DIGITS ? NUMBER : UNKNOWN;
+                types[n] = letters == 0 && digits <= MOST_DIGITS ? NUMBER : UNKNOWN;
+                values[n] = number;
             }
         }
 
-        private int wordOf(long wordCode) {
+        /** Goes on to the next token; the end stays the end. */
+        void step() {
+            type = types[next];
+            at = places[next];
+            value = values[next];
+            word = type == KNOWN_WORD ? (int) value : NONE;
+            if (next < last) {
+                next++;
+            }
+        }
+
+        private int wordOf(long code) {
             for (int i = 0; i < WORD_COUNT; i++) {
-                if (words[i] == wordCode) {
+                if (words[i] == code) {
                     return i;
                 }
             }
@@ -748,15 +774,15 @@ public final class HiddenOrLost {
         }
 
         boolean isWord(int w) {
-            return type == WORD && word == w;
+            return word == w;
         }
 
         boolean isAmong(int first, int n) {
-            return type == WORD && word >= first && word < first + n;
+            return word >= first && word < first + n;
         }
 
         boolean isName() {
-            return type == WORD && word == NONE;
+            return type == NAME;
         }
 
         boolean fail(int kind) {
@@ -777,10 +803,10 @@ public final class HiddenOrLost {
             if (type != NUMBER) {
                 return fail(NO_TOKEN);
             }
-            if (number < from || number > to) {
+            if (value < from || value > to) {
                 return fail(BAD_NUMBER);
             }
-            taken = number;
+            taken = (int) value;
             step();
             return true;
         }
@@ -879,7 +905,7 @@ public final class HiddenOrLost {
         }
 
         int factOf(int f, int what) {
-            return hasFind(f) && what >= 0 && what < FACTS ? facts[f * FACTS + what] : NONE;
+            return f >= 0 && f < finds && what >= 0 && what < FACTS ? facts[f * FACTS + what] : NONE;
         }
 
         int fearFrom(int k) {
@@ -986,8 +1012,8 @@ public final class HiddenOrLost {
             if (!tape.isName()) {
                 return tape.fail(NO_TOKEN);
             }
-            boolean isTold = personNamed(tape.code) >= 0 || findNamed(tape.code) >= 0
-                || placeOf(fearNames, fears, tape.code) >= 0;
+            boolean isTold = personNamed(tape.value) >= 0 || findNamed(tape.value) >= 0
+                || placeOf(fearNames, fears, tape.value) >= 0;
             return !isTold || tape.fail(BAD_NAME);
         }
 
@@ -995,7 +1021,7 @@ public final class HiddenOrLost {
             if (!reachNewName(tape, persons < MOST_PERSONS)) {
                 return false;
             }
-            personNames[persons] = tape.code;
+            personNames[persons] = tape.value;
             persons++;
             tape.step();
             return true;
@@ -1006,7 +1032,7 @@ public final class HiddenOrLost {
                 return false;
             }
             int row = finds * FACTS;
-            findNames[finds] = tape.code;
+            findNames[finds] = tape.value;
             tape.step();
             if (!tape.takeAmong(W_COIN, KINDS)) {
                 return false;
@@ -1041,7 +1067,7 @@ public final class HiddenOrLost {
             if (!reachNewName(tape, fears < MOST_FEARS)) {
                 return false;
             }
-            fearNames[fears] = tape.code;
+            fearNames[fears] = tape.value;
             tape.step();
             if (!tape.takeNumber(0, MOST_NUMBER)) {
                 return false;
@@ -1342,18 +1368,15 @@ public final class HiddenOrLost {
             digCell(land, p, land.columnOf(cell), land.rowOf(cell));
             for (int f = 0; f < land.finds; f++) {
                 if (status[f] == HAD) {
-                    settle(land, f, draws.below(4));
+                    int way = draws.below(4);
+                    if (way == 0) {
+                        status[f] = TOLD;
+                    } else if (way == 1) {
+                        sellFind(land, f);
+                    }
                 }
             }
             night++;
-        }
-
-        private void settle(Land land, int f, int way) {
-            if (way == 0) {
-                status[f] = TOLD;
-            } else if (way == 1) {
-                sellFind(land, f);
-            }
         }
     }
 
@@ -1628,8 +1651,8 @@ public final class HiddenOrLost {
             if (!isWork && !tape.isName()) {
                 return tape.fail(NO_TOKEN);
             }
-            int p = isWork ? NONE : land.personNamed(tape.code);
-            int f = isWork ? NONE : land.findNamed(tape.code);
+            int p = isWork ? NONE : land.personNamed(tape.value);
+            int f = isWork ? NONE : land.findNamed(tape.value);
             if (!isWork && p < 0 && f < 0) {
                 return tape.fail(BAD_NAME);
             }
@@ -1691,7 +1714,7 @@ public final class HiddenOrLost {
             if (!tape.isName()) {
                 return tape.fail(NO_TOKEN);
             }
-            seconds[lines] = land.personNamed(tape.code);
+            seconds[lines] = land.personNamed(tape.value);
             if (seconds[lines] < 0) {
                 return tape.fail(BAD_NAME);
             }
@@ -1852,24 +1875,18 @@ public final class HiddenOrLost {
                 return tape.fail(TOO_MANY);
             }
             ones++;
-            if (tape.isWord(W_NOT)) {
-                tape.step();
+            int word = tape.word;
+            tape.step();
+            if (word == NONE) {
+                return readCond(tape, land, within + 1) && tape.takeSign(')');
+            }
+            if (word == W_NOT) {
                 if (!readOne(tape, land, within + 1)) {
                     return false;
                 }
                 add(W_NOT, 0, 0);
                 return true;
             }
-            if (tape.type == '(') {
-                tape.step();
-                return readCond(tape, land, within + 1) && tape.takeSign(')');
-            }
-            return readPlain(tape, land);
-        }
-
-        private boolean readPlain(Tape tape, Land land) {
-            int word = tape.word;
-            tape.step();
             if (word == W_OF) {
                 return readHolder(tape, land);
             }
@@ -1884,7 +1901,7 @@ public final class HiddenOrLost {
             if (!tape.isName()) {
                 return tape.fail(NO_TOKEN);
             }
-            int p = land.personNamed(tape.code);
+            int p = land.personNamed(tape.value);
             if (p < 0) {
                 return tape.fail(BAD_NAME);
             }
