@@ -49,6 +49,8 @@ public final class ActsTest {
         Check.same("now(9)", x.now(9), -1);
         Check.same("cell(1, 1, 1)", x.cell(1, 1, 1), 3);
         Check.same("cell(2, 0, 1)", x.cell(2, 0, 1), 4);
+        Check.same("cell(1, 0, 1)", x.cell(1, 0, 1), 0);
+        Check.same("cell(0, 1, 1)", x.cell(0, 1, 1), 0);
         Check.same("now(1)", x.now(1), 15);
     }
 
@@ -276,8 +278,11 @@ public final class ActsTest {
         }
         Check.same("the ninth is not kept", x.undo(), -1);
         Check.same("it stays done", x.cell(0, 0, 0), 1);
+        int found = x.person(0, 3);
         x.dig(0, 1, 1);
+        Check.same("one more is found", x.person(0, 3), found + 1);
         Check.same("it goes on", x.undo(), 0);
+        Check.same("it is not found any more", x.person(0, 3), found);
     }
 
     private static void undoingEachAct() {

@@ -67,6 +67,16 @@ public final class BookTest {
         fault(3, "ring given ^zoe;");
         fault(3, "ring given ^war;");
         fault(1, "ring told;urn sold;^ringtolds;");
+        for (String word : ("field person find coin pot lid bone fear hint hidden lost buried prior gets king finder owner risk digs told sold "
+            + "laid given or and not ground found of year value deep number").split(" ")) {
+            fault(1, "^" + word + " told;");
+        }
+        for (String word : "digs plough night ground found of coin or".split(" ")) {
+            fault(1, "ring ^" + word + ";");
+        }
+        for (String word : "told sold laid given plough night".split(" ")) {
+            fault(1, "ann ^" + word + " 0 0;");
+        }
     }
 
     private static String lines(int n, String line) {
@@ -148,6 +158,8 @@ public final class BookTest {
     }
 
     private static void wrongLines() {
+        wrong(9, 0, "ann digs 5 5;");
+        wrong(39, 0, "ring laid 5 5;");
         wrong(9, 0, "ann digs 3 0;");
         wrong(9, 0, "ann digs 0 2;");
         wrong(1, 10, lines(11, "ann digs 0 0;"));
@@ -203,6 +215,9 @@ public final class BookTest {
 
     private static void whatStays() {
         HiddenOrLost x = Check.withField(FIELD);
+        Check.book(x, 0, "ring told;");
+        Check.same("an empty book is not wrong", Check.book(x, 0, ""), -1);
+        told("behind one that was wrong", x, 0, 0, 0, 0);
         Check.book(x, 0, "ann digs 1 1;ring told;");
         told("good", x, 0, 2, 0, 1);
         Check.book(x, 1, "ann digs 1 1;ring tld;");

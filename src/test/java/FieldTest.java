@@ -75,6 +75,10 @@ public final class FieldTest {
         fault(1, "gets hidden ^coin 3;");
         fault(1, "prior ^coin 3;");
         fault(1, "person a;risk 5^(");
+        for (String word : ("coin pot lid bone hidden lost buried king finder owner digs told sold laid given plough night or and not ground found of "
+            + "year value deep number").split(" ")) {
+            fault(1, "^" + word + " 5;");
+        }
     }
 
     private static void numbers() {
@@ -126,6 +130,44 @@ public final class FieldTest {
         good(3, "hint lost coin 1;hint lost pot 1;hint hidden coin 1;");
         fault(3, "gets lost owner 1;gets lost ^owner 1;");
         good(3, "gets lost owner 1;gets lost king 1;gets buried owner 1;");
+        StringBuilder all = new StringBuilder("field 3 3;risk 3;");
+        for (String reading : "hidden lost buried".split(" ")) {
+            all.append("prior ").append(reading).append(" 3;");
+            for (String kind : "coin pot lid bone".split(" ")) {
+                all.append("hint ").append(reading).append(' ').append(kind).append(" 3;");
+            }
+            for (String role : "king finder owner".split(" ")) {
+                all.append("gets ").append(reading).append(' ').append(role).append(" 3;");
+            }
+        }
+        good(26, all.toString());
+        oneBehindTheOther(all.toString());
+    }
+
+    /** What one field told is not told in the next ones. */
+    private static void oneBehindTheOther(String all) {
+        HiddenOrLost x = new HiddenOrLost();
+        for (int i = 0; i < 3; i++) {
+            Check.feed(x, all + "person a;find b coin 0 0 0 5 10;fear c 1 2;");
+            Check.same("all that may be told", x.field(), 29);
+            x.dig(0, 0, 0);
+            x.tell(0);
+            Check.same("a quarter", x.gains(1, 0) * 10 + x.gains(1, 1), 52);
+        }
+        for (int i = 0; i < 3; i++) {
+            Check.feed(x, "person a;find b coin 3 3 0 5 10;");
+            Check.same("little", x.field(), 2);
+            Check.same("persons", x.count(0), 1);
+            Check.same("finds", x.count(1), 1);
+            Check.same("fears", x.count(2), 0);
+            Check.same("wide", x.count(3), 4);
+            Check.same("high", x.count(4), 4);
+            Check.same("risk", x.count(5), 3);
+            Check.same("sure as without hints", x.sure(2, 0) * 10 + x.sure(2, 1), 13);
+            x.dig(0, 3, 3);
+            x.tell(0);
+            Check.same("a third", x.gains(2, 0) * 10 + x.gains(2, 1), 103);
+        }
     }
 
     private static void tooMany() {
@@ -176,6 +218,7 @@ public final class FieldTest {
         x.dig(0, 1, 1);
         x.nights(3, 3);
         x.plough(2);
+        x.dig(0, 1, 1);
         Check.feed(x, "person bob;find urn pot 1 1 0 400 9;");
         Check.same("a new field", x.field(), 2);
         Check.same("night", x.now(0), 0);
@@ -184,6 +227,7 @@ public final class FieldTest {
         Check.same("how often was dug", x.now(6), 0);
         Check.same("how often was ploughed", x.now(8), 0);
         Check.same("coin", x.now(5), 0);
+        Check.same("how many were found", x.person(0, 3), 0);
         Check.same("who had it", x.find(0, 7), -1);
         Check.same("risk as without", x.count(5), 3);
         Check.same("no sentence", x.said(-1), -1);

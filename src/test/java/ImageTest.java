@@ -34,7 +34,7 @@ public final class ImageTest {
         x.tell(0);
         x.plough(4);
         x.nights(2, 5);
-        Check.sentence(x, "told or of bob");
+        Check.sentence(x, "told and year < 405 or of bob");
         int[] before = all(x);
         Check.same("image", x.image(0), true);
         Check.same("acts can be undone still", x.undo(), 3);
@@ -43,6 +43,7 @@ public final class ImageTest {
         x.field();
         x.dig(0, 0, 0);
         Check.sentence(x, "coin");
+        Check.same("of that one", x.said(-1), 1);
         Check.same("restore", x.restore(0), true);
         Check.same("nothing can be undone", x.undo(), -1);
         int[] after = all(x);
@@ -53,7 +54,7 @@ public final class ImageTest {
         Check.same("of a book", Check.book(x, 0, "bob digs 0 0;"), -1);
         x.dig(0, 2, 1);
         x.plough(5);
-        Check.sentence(x, "bone");
+        Check.sentence(x, "bone and value > 3 and of ann");
         Check.same("restore again", x.restore(0), true);
         after = all(x);
         for (int i = 0; i < before.length; i++) {
@@ -88,6 +89,7 @@ public final class ImageTest {
         }
         for (int r = 0; r < 3; r++) {
             all[n++] = (int) x.belief(r, 0);
+            all[n++] = (int) x.gains(r, 0);
             all[n++] = (int) x.gains(r, 1);
         }
         all[n++] = x.fear(0, 1);

@@ -71,6 +71,11 @@ public final class SentenceTest {
         fault(3, "of ^ring");
         fault(3, "of ^war");
         fault(3, "coin or of ^zoe )");
+        for (String word : "field person find fear hint hidden lost buried prior gets king finder owner risk digs laid given plough night or and".split(" ")) {
+            fault(1, "^" + word);
+            fault(1, "not ^" + word);
+        }
+        good(1, "year>0");
     }
 
     private static String times(int n, String part) {

@@ -105,6 +105,7 @@ public final class WalkTest {
             Check.same("doubt(" + b[0] + ", " + b[1] + ", " + b[2] + ", 1)", x.doubt(b[0], b[1], b[2], 1), -1);
         }
         Check.same("nothing told: all", new HiddenOrLost().doubt(3, 3, 30, -5), 30);
+        Check.same("one seed", new HiddenOrLost().doubt(0, 0, 1, 1), 1);
     }
 
     private static int ploughedSpread(int seed, int n, int side, int startX, int startY) {
@@ -151,6 +152,24 @@ public final class WalkTest {
         }
         HiddenOrLost y = told("field 6 6;", 0, 55);
         Check.same("too far for the plough", y.doubt(0, 0, 30, 1), 0);
+        doubtAmongOthers();
+    }
+
+    /** What is not told takes no draws and has no part in the spread. */
+    private static void doubtAmongOthers() {
+        HiddenOrLost x = Check.withField("person p;find a pot 3 3 0 0 0;find b pot 0 0 0 0 0;find c pot 3 0 0 0 0;find d pot 1 1 0 0 0;find e pot 3 3 1 0 0;");
+        x.dig(0, 0, 0);
+        x.dig(0, 1, 1);
+        x.dig(0, 3, 0);
+        x.tell(1);
+        x.tell(3);
+        for (int seed = -100; seed < 900; seed += 100) {
+            int due = 0;
+            for (int i = 0; i < 30; i++) {
+                due += ploughedSpread(seed + i, 2, 4, 1, 2) >= 2 ? 1 : 0;
+            }
+            Check.same("doubt among others by " + seed, x.doubt(1, 2, 30, seed), due);
+        }
     }
 
     private static void odds() {
@@ -175,11 +194,26 @@ public final class WalkTest {
         x.dig(0, 0, 0);
         x.tell(0);
         Check.same("told already", x.odds(0, 30, 1), 30);
+        Check.same("by one seed", x.odds(0, 1, 1), 1);
         for (int i = 0; i < 14; i++) {
             x.nights(30, 4);
         }
         Check.same("no nights are left: it stays told", x.odds(0, 17, 1), 17);
+        twentyNights();
         lastOdds();
+    }
+
+    private static void twentyNights() {
+        HiddenOrLost x = Check.withField("field 3 3;person p;person q;find a coin 0 0 0 0 0;find b coin 2 2 1 0 0;find c coin 1 1 0 0 0;find d pot 1 0 0 0 0;");
+        for (int f = 0; f < 4; f++) {
+            int due = 0;
+            for (int seed = 40; seed < 70; seed++) {
+                x.nights(20, seed);
+                due += x.find(f, 6) == 2 ? 1 : 0;
+                x.undo();
+            }
+            Check.same("odds of " + f, x.odds(f, 30, 40), due);
+        }
     }
 
     /** Three nights are left: odds() has those alone. */

@@ -78,6 +78,12 @@ public final class YearsTest {
         y.tell(0);
         Check.same("three of one year", y.pots(), 0);
         Check.same("by number", y.early(), 1);
+        HiddenOrLost w = had("find c pot 0 0 0 1 0;find a coin 0 0 0 90 0;find b coin 0 0 0 80 0;find d coin 0 0 0 20 0;find e coin 0 0 0 10 0;", 5);
+        for (int f = 1; f < 5; f++) {
+            w.tell(f);
+        }
+        Check.same("10 20 | 80 90", w.pots(), 20);
+        Check.same("the last two", w.early(), 8 + 16);
         HiddenOrLost z = had("find a coin 0 0 0 90 0;find b coin 0 0 0 9 0;find c coin 0 0 0 9 0;", 3);
         z.tell(0);
         z.tell(1);
@@ -150,6 +156,10 @@ public final class YearsTest {
         Check.same("behind a new field, too", x.byteAt(2), '9');
         HiddenOrLost y = Check.withField("person zzzzzzz;find aaaaaaa coin 0 0 0 100 0;");
         y.dig(0, 0, 0);
+        HiddenOrLost ten = Check.withField("find a coin 0 0 0 10 0;find b coin 0 0 0 100 0;find c coin 0 0 0 009 0;");
+        Check.same("ten", Check.label(ten, 0), "a 10 in the ground");
+        Check.same("a hundred", Check.label(ten, 1), "b 100 in the ground");
+        Check.same("nine", Check.label(ten, 2), "c 9 in the ground");
         Check.same("the longest", Check.label(y, 0), "aaaaaaa 100 had by zzzzzzz");
     }
 }
