@@ -10,7 +10,7 @@ import java.util.TreeMap;
 
 /** Long runs by chance on the class and on the oracle, answer against answer; a machine's exception is a wrong answer. */
 public final class OracleTest {
-    private static final int RUNS = 6000;
+    private static final int RUNS = 12000;
     private static final int CALLS = 170;
 
     private final Random chance;
