@@ -3,15 +3,7 @@ public final class ActsTest {
     private static final String FIELD = "field 3 3;person ann;person bob;find ring lid 1 1 0 400 9;find urn pot 1 1 2 410 20;"
         + "find skull bone 2 0 9 300 7;find as coin 0 2 3 420 99;";
 
-    private int x;
-
-    private ActsTest(int seed) {
-        x = seed;
-    }
-
-    private int draw(int n) {
-        x = x * 1103515245 + 12345;
-        return (x >>> 8) % n;
+    private ActsTest() {
     }
 
     public static void main(String[] args) {
@@ -168,9 +160,9 @@ public final class ActsTest {
             HiddenOrLost y = Check.withField(FIELD);
             y.dig(0, 0, 0);
             y.dig(0, 1, 1);
-            ActsTest draws = new ActsTest(seed);
-            int way = draws.draw(5);
-            int deep = draws.draw(3);
+            Draws draws = new Draws(seed);
+            int way = draws.of(5);
+            int deep = draws.of(3);
             // The ring is had; the urn lies 2 deep in the midst; the others lie too deep.
             Check.same("plough " + seed, y.plough(seed), way == 0 ? 0 : 1);
             Check.same("x", y.find(1, 1), 1 + dx[way]);
@@ -192,11 +184,11 @@ public final class ActsTest {
         boolean stayed = false;
         for (int seed = 0; seed < 60; seed++) {
             HiddenOrLost x = Check.withField("field 2 2;find a coin 0 0 0 0 0;find b coin 1 1 0 0 0;");
-            ActsTest draws = new ActsTest(seed);
-            int wayA = draws.draw(5);
-            int deepA = draws.draw(3);
-            int wayB = draws.draw(5);
-            int deepB = draws.draw(3);
+            Draws draws = new Draws(seed);
+            int wayA = draws.of(5);
+            int deepA = draws.of(3);
+            int wayB = draws.of(5);
+            int deepB = draws.of(3);
             int moved = (wayA == 1 || wayA == 3 ? 1 : 0) + (wayB == 2 || wayB == 4 ? 1 : 0);
             Check.same("plough at the edge " + seed, x.plough(seed), moved);
             Check.same("a's x", x.find(0, 1), wayA == 1 ? 1 : 0);
@@ -220,18 +212,18 @@ public final class ActsTest {
         Check.same("none went by", x.now(0), 0);
         for (int seed = 0; seed < 40; seed++) {
             HiddenOrLost y = Check.withField("field 2 3;person p;person q;find a coin 0 0 0 0 11;");
-            ActsTest draws = new ActsTest(seed);
+            Draws draws = new Draws(seed);
             int status = 0;
             int who = -1;
             for (int night = 0; night < 8; night++) {
-                int p = draws.draw(2);
-                int cell = draws.draw(6);
+                int p = draws.of(2);
+                int cell = draws.of(6);
                 if (cell == 0 && status == 0) {
                     status = 1;
                     who = p;
                 }
                 if (status == 1) {
-                    int way = draws.draw(4);
+                    int way = draws.of(4);
                     status = way == 0 ? 2 : way == 1 ? 3 : 1;
                 }
             }
@@ -244,9 +236,9 @@ public final class ActsTest {
         }
         HiddenOrLost z = Check.withField("field 2 3;person p;person q;");
         z.nights(1, 77);
-        ActsTest draws = new ActsTest(77);
-        int p = draws.draw(2);
-        int cell = draws.draw(6);
+        Draws draws = new Draws(77);
+        int p = draws.of(2);
+        int cell = draws.of(6);
         Check.same("who dug", z.person(p, 2), 1);
         Check.same("which cell, row by row", z.cell(cell % 2, cell / 2, 0), 1);
     }

@@ -5,6 +5,7 @@ import java.util.NoSuchElementException;
 final class Check {
     private static int wrong = 0;
     private static int compared = 0;
+    private static String about = "";
 
     private Check() {
     }
@@ -13,11 +14,24 @@ final class Check {
         long answer();
     }
 
+    /** What is compared from here on belongs to these words, which are told beside what is wrong. */
+    static void about(String words) {
+        about = words;
+    }
+
+    static int compared() {
+        return compared;
+    }
+
+    private static void wrong(String what) {
+        wrong++;
+        System.out.println(about + what);
+    }
+
     static void same(String what, long got, long want) {
         compared++;
         if (got != want) {
-            wrong++;
-            System.out.println(what + " answered " + got + ", due is " + want);
+            wrong(what + " answered " + got + ", due is " + want);
         }
     }
 
@@ -28,8 +42,7 @@ final class Check {
     static void same(String what, String got, String want) {
         compared++;
         if (!got.equals(want)) {
-            wrong++;
-            System.out.println(what + " answered '" + got + "', due is '" + want + "'");
+            wrong(what + " answered '" + got + "', due is '" + want + "'");
         }
     }
 
@@ -66,8 +79,7 @@ final class Check {
         feed(x, text);
         int lines = x.field();
         if (lines < 0) {
-            wrong++;
-            System.out.println("a test's field has a fault of kind " + x.fault() + " at " + (-1 - lines) + ": " + text);
+            wrong("a test's field has a fault of kind " + x.fault() + " at " + (-1 - lines) + ": " + text);
         }
         return x;
     }

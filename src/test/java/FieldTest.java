@@ -18,118 +18,100 @@ public final class FieldTest {
         Check.close();
     }
 
-    /** The text has a fault of that kind at the first place of the mark, which is taken out of it. */
-    private static void fault(int kind, String marked) {
-        int place = marked.indexOf('^');
-        HiddenOrLost x = new HiddenOrLost();
-        Check.feed(x, marked.substring(0, place) + marked.substring(place + 1));
-        Check.same("place of the fault in " + marked, x.field(), -1 - place);
-        Check.same("kind of the fault in " + marked, x.fault(), kind);
-        Check.same("the tape is empty behind it", x.count(6), 0);
-    }
-
-    private static void good(int lines, String text) {
-        HiddenOrLost x = new HiddenOrLost();
-        Check.feed(x, text);
-        Check.same("lines of " + text, x.field(), lines);
-        Check.same("no fault in " + text, x.fault(), 0);
-        Check.same("the tape is empty behind it", x.count(6), 0);
-    }
-
     private static void tokens() {
-        good(0, "");
-        good(0, " \n ");
-        good(1, "person a;");
-        good(2, "\nperson\n a\n;person abcdefg ; ");
-        good(1, "find x coin 003 3 9 999 99;");
-        fault(1, "^;");
-        fault(1, "person ^");
-        fault(1, "person a  \n^");
-        fault(1, "person a^");
-        fault(1, "person a ^person b;");
-        fault(1, "person ^abcdefgh;");
-        fault(1, "person ^a1;");
-        fault(1, "person ^1a;");
-        fault(1, "person ^A;");
-        fault(1, "person ^7;");
-        fault(1, "person ^;");
-        fault(1, "person a^.");
-        fault(1, "person a;^.");
-        fault(1, "^Person a;");
-        fault(1, "^persona;");
-        fault(1, "^7;");
-        fault(1, "^told;");
-        fault(1, "^ann;");
-        fault(1, "person a;^\t person b;");
-        fault(1, "person a;^\u0000");
-        fault(1, "person a;^\u00e9;");
-        fault(1, "risk ^0012;");
-        fault(1, "risk ^x;");
-        fault(1, "risk ^;");
-        fault(1, "risk 1 ^2;");
-        fault(1, "find a ^b 0 0 0 0 0;");
-        fault(1, "find a ^hidden 0 0 0 0 0;");
-        fault(1, "find a coin ^coin 0 0 0 0;");
-        fault(1, "hint ^coin hidden 3;");
-        fault(1, "hint hidden ^king 3;");
-        fault(1, "gets hidden ^coin 3;");
-        fault(1, "prior ^coin 3;");
-        fault(1, "person a;risk 5^(");
+        Faults.goodField(0, "");
+        Faults.goodField(0, " \n ");
+        Faults.goodField(1, "person a;");
+        Faults.goodField(2, "\nperson\n a\n;person abcdefg ; ");
+        Faults.goodField(1, "find x coin 003 3 9 999 99;");
+        Faults.inField(1, "^;");
+        Faults.inField(1, "person ^");
+        Faults.inField(1, "person a  \n^");
+        Faults.inField(1, "person a^");
+        Faults.inField(1, "person a ^person b;");
+        Faults.inField(1, "person ^abcdefgh;");
+        Faults.inField(1, "person ^a1;");
+        Faults.inField(1, "person ^1a;");
+        Faults.inField(1, "person ^A;");
+        Faults.inField(1, "person ^7;");
+        Faults.inField(1, "person ^;");
+        Faults.inField(1, "person a^.");
+        Faults.inField(1, "person a;^.");
+        Faults.inField(1, "^Person a;");
+        Faults.inField(1, "^persona;");
+        Faults.inField(1, "^7;");
+        Faults.inField(1, "^told;");
+        Faults.inField(1, "^ann;");
+        Faults.inField(1, "person a;^\t person b;");
+        Faults.inField(1, "person a;^\u0000");
+        Faults.inField(1, "person a;^\u00e9;");
+        Faults.inField(1, "risk ^0012;");
+        Faults.inField(1, "risk ^x;");
+        Faults.inField(1, "risk ^;");
+        Faults.inField(1, "risk 1 ^2;");
+        Faults.inField(1, "find a ^b 0 0 0 0 0;");
+        Faults.inField(1, "find a ^hidden 0 0 0 0 0;");
+        Faults.inField(1, "find a coin ^coin 0 0 0 0;");
+        Faults.inField(1, "hint ^coin hidden 3;");
+        Faults.inField(1, "hint hidden ^king 3;");
+        Faults.inField(1, "gets hidden ^coin 3;");
+        Faults.inField(1, "prior ^coin 3;");
+        Faults.inField(1, "person a;risk 5^(");
         for (String word : ("coin pot lid bone hidden lost buried king finder owner digs told sold laid given plough night or and not ground found of "
             + "year value deep number").split(" ")) {
-            fault(1, "^" + word + " 5;");
+            Faults.inField(1, "^" + word + " 5;");
         }
     }
 
     private static void numbers() {
-        good(1, "field 2 6;");
-        fault(2, "field ^1 4;");
-        fault(2, "field 4 ^7;");
-        fault(2, "find a coin ^4 0 0 0 0;");
-        fault(2, "find a coin 0 ^4 0 0 0;");
-        fault(2, "field 2 6;find a coin ^2 0 0 0 0;");
-        good(2, "field 2 6;find a coin 1 5 0 0 0;");
-        fault(2, "find a coin 0 0 ^10 0 0;");
-        fault(2, "find a coin 0 0 0 0 ^100;");
-        fault(2, "fear a 5 ^4;");
-        good(1, "fear a 5 5;");
-        good(1, "fear a 0 999;");
-        fault(2, "hint hidden coin ^13;");
-        good(2, "hint hidden coin 12;hint hidden pot 0;");
-        fault(2, "prior lost ^0;");
-        fault(2, "prior lost ^100;");
-        good(1, "prior lost 99;");
-        fault(2, "gets lost king ^13;");
-        fault(2, "risk ^13;");
-        good(1, "risk 12;");
-        fault(2, "risk ^13");
+        Faults.goodField(1, "field 2 6;");
+        Faults.inField(2, "field ^1 4;");
+        Faults.inField(2, "field 4 ^7;");
+        Faults.inField(2, "find a coin ^4 0 0 0 0;");
+        Faults.inField(2, "find a coin 0 ^4 0 0 0;");
+        Faults.inField(2, "field 2 6;find a coin ^2 0 0 0 0;");
+        Faults.goodField(2, "field 2 6;find a coin 1 5 0 0 0;");
+        Faults.inField(2, "find a coin 0 0 ^10 0 0;");
+        Faults.inField(2, "find a coin 0 0 0 0 ^100;");
+        Faults.inField(2, "fear a 5 ^4;");
+        Faults.goodField(1, "fear a 5 5;");
+        Faults.goodField(1, "fear a 0 999;");
+        Faults.inField(2, "hint hidden coin ^13;");
+        Faults.goodField(2, "hint hidden coin 12;hint hidden pot 0;");
+        Faults.inField(2, "prior lost ^0;");
+        Faults.inField(2, "prior lost ^100;");
+        Faults.goodField(1, "prior lost 99;");
+        Faults.inField(2, "gets lost king ^13;");
+        Faults.inField(2, "risk ^13;");
+        Faults.goodField(1, "risk 12;");
+        Faults.inField(2, "risk ^13");
     }
 
     private static void names() {
         String[] reserved = ("field person find coin pot lid bone fear hint hidden lost buried prior gets king finder owner risk digs told sold "
             + "laid given plough night or and not ground found of year value deep number").split(" ");
         for (String word : reserved) {
-            fault(1, "person ^" + word + ";");
+            Faults.inField(1, "person ^" + word + ";");
         }
-        good(3, "person reading;person kind;person role;");
-        fault(3, "person a;person ^a;");
-        fault(3, "person a;find ^a coin 0 0 0 0 0;");
-        fault(3, "find a coin 0 0 0 0 0;fear ^a 0 0;");
-        fault(3, "fear a 0 0;person ^a;");
-        fault(3, "person a;person ^a");
+        Faults.goodField(3, "person reading;person kind;person role;");
+        Faults.inField(3, "person a;person ^a;");
+        Faults.inField(3, "person a;find ^a coin 0 0 0 0 0;");
+        Faults.inField(3, "find a coin 0 0 0 0 0;fear ^a 0 0;");
+        Faults.inField(3, "fear a 0 0;person ^a;");
+        Faults.inField(3, "person a;person ^a");
     }
 
     private static void onceOnly() {
-        fault(3, "field 4 4;^field 4 4;");
-        fault(3, "find a coin 0 0 0 0 0;^field 4 4;");
-        good(2, "person a;field 4 4;");
-        fault(3, "risk 3;^risk 4;");
-        fault(3, "prior lost 1;prior ^lost 1;");
-        good(3, "prior lost 1;prior hidden 1;prior buried 1;");
-        fault(3, "hint lost coin 1;hint lost ^coin 200;");
-        good(3, "hint lost coin 1;hint lost pot 1;hint hidden coin 1;");
-        fault(3, "gets lost owner 1;gets lost ^owner 1;");
-        good(3, "gets lost owner 1;gets lost king 1;gets buried owner 1;");
+        Faults.inField(3, "field 4 4;^field 4 4;");
+        Faults.inField(3, "find a coin 0 0 0 0 0;^field 4 4;");
+        Faults.goodField(2, "person a;field 4 4;");
+        Faults.inField(3, "risk 3;^risk 4;");
+        Faults.inField(3, "prior lost 1;prior ^lost 1;");
+        Faults.goodField(3, "prior lost 1;prior hidden 1;prior buried 1;");
+        Faults.inField(3, "hint lost coin 1;hint lost ^coin 200;");
+        Faults.goodField(3, "hint lost coin 1;hint lost pot 1;hint hidden coin 1;");
+        Faults.inField(3, "gets lost owner 1;gets lost ^owner 1;");
+        Faults.goodField(3, "gets lost owner 1;gets lost king 1;gets buried owner 1;");
         StringBuilder all = new StringBuilder("field 3 3;risk 3;");
         for (String reading : "hidden lost buried".split(" ")) {
             all.append("prior ").append(reading).append(" 3;");
@@ -140,7 +122,7 @@ public final class FieldTest {
                 all.append("gets ").append(reading).append(' ').append(role).append(" 3;");
             }
         }
-        good(26, all.toString());
+        Faults.goodField(26, all.toString());
         oneBehindTheOther(all.toString());
     }
 
@@ -172,37 +154,29 @@ public final class FieldTest {
 
     private static void tooMany() {
         String six = "person a;person b;person c;person d;person e;person f;";
-        good(6, six);
-        fault(4, six + "^person g;");
-        fault(4, six + "^person a;");
-        good(10, TEN_FINDS);
-        fault(4, TEN_FINDS + "^find fk coin 0 0 0 0 0;");
+        Faults.goodField(6, six);
+        Faults.inField(4, six + "^person g;");
+        Faults.inField(4, six + "^person a;");
+        Faults.goodField(10, TEN_FINDS);
+        Faults.inField(4, TEN_FINDS + "^find fk coin 0 0 0 0 0;");
         String fears = "fear a 0 0;fear b 0 0;fear c 0 0;fear d 0 0;fear e 0 0;fear f 0 0;";
-        good(6, fears);
-        fault(4, fears + "^fear g 0 0;");
-        fault(4, fears + "^fear");
-    }
-
-    private static String wide(String text, int bytes) {
-        StringBuilder wide = new StringBuilder(text);
-        while (wide.length() < bytes) {
-            wide.insert(0, ' ');
-        }
-        return wide.toString();
+        Faults.goodField(6, fears);
+        Faults.inField(4, fears + "^fear g 0 0;");
+        Faults.inField(4, fears + "^fear");
     }
 
     private static void length() {
-        good(1, wide("person a;", 900));
-        fault(1, wide("person a;", 900) + "^ ");
-        fault(1, wide("person a;", 900) + "^person b;");
-        fault(1, wide("person a", 900) + "^;");
-        fault(1, wide("person a", 899) + " ^ ;");
-        fault(1, wide("person ", 899) + "^abcdefgh;");
-        fault(1, wide("person ", 899) + "a^bcdefg;");
-        fault(3, wide("person abc;person ", 898) + "^abc;");
-        fault(2, wide("risk ", 899) + "^13;");
-        fault(1, wide("", 900) + "^" + wide("", 40));
-        fault(1, wide("", 898) + "^;" + wide("", 41));
+        Faults.goodField(1, Faults.wide("person a;", 900));
+        Faults.inField(1, Faults.wide("person a;", 900) + "^ ");
+        Faults.inField(1, Faults.wide("person a;", 900) + "^person b;");
+        Faults.inField(1, Faults.wide("person a", 900) + "^;");
+        Faults.inField(1, Faults.wide("person a", 899) + " ^ ;");
+        Faults.inField(1, Faults.wide("person ", 899) + "^abcdefgh;");
+        Faults.inField(1, Faults.wide("person ", 899) + "a^bcdefg;");
+        Faults.inField(3, Faults.wide("person abc;person ", 898) + "^abc;");
+        Faults.inField(2, Faults.wide("risk ", 899) + "^13;");
+        Faults.inField(1, Faults.wide("", 900) + "^" + Faults.wide("", 40));
+        Faults.inField(1, Faults.wide("", 898) + "^;" + Faults.wide("", 41));
     }
 
     private static void whatStays() {

@@ -1,14 +1,6 @@
 /** Promises 24 to 27 and 36: routes, spread, doubt, odds. */
 public final class WalkTest {
-    private int x;
-
-    private WalkTest(int seed) {
-        x = seed;
-    }
-
-    private int draw(int n) {
-        x = x * 1103515245 + 12345;
-        return (x >>> 8) % n;
+    private WalkTest() {
     }
 
     public static void main(String[] args) {
@@ -108,42 +100,13 @@ public final class WalkTest {
         Check.same("one seed", new HiddenOrLost().doubt(0, 0, 1, 1), 1);
     }
 
-    private static int ploughedSpread(int seed, int n, int side, int startX, int startY) {
-        WalkTest draws = new WalkTest(seed);
-        int[] xs = new int[n];
-        int[] ys = new int[n];
-        for (int f = 0; f < n; f++) {
-            xs[f] = startX;
-            ys[f] = startY;
-        }
-        for (int time = 0; time < 3; time++) {
-            for (int f = 0; f < n; f++) {
-                int way = draws.draw(5);
-                draws.draw(3);
-                int newX = xs[f] + (way == 1 ? 1 : way == 2 ? -1 : 0);
-                int newY = ys[f] + (way == 3 ? 1 : way == 4 ? -1 : 0);
-                if (newX >= 0 && newY >= 0 && newX < side && newY < side) {
-                    xs[f] = newX;
-                    ys[f] = newY;
-                }
-            }
-        }
-        int steps = 0;
-        for (int f = 0; f < n; f++) {
-            for (int g = 0; g < f; g++) {
-                steps += Math.abs(xs[f] - xs[g]) + Math.abs(ys[f] - ys[g]);
-            }
-        }
-        return steps;
-    }
-
     private static void doubt() {
         for (int start : new int[] {0, 11, 23, 33}) {
             HiddenOrLost x = told("", 0, 12, 20);
             for (int seed : new int[] {1, 100, -20, Integer.MAX_VALUE - 3}) {
                 int due = 0;
                 for (int i = 0; i < 30; i++) {
-                    due += ploughedSpread(seed + i, 3, 4, start / 10, start % 10) >= x.spread() ? 1 : 0;
+                    due += Draws.ploughedSpread(seed + i, 3, 4, start / 10, start % 10) >= x.spread() ? 1 : 0;
                 }
                 Check.same("doubt from " + start + " by " + seed, x.doubt(start / 10, start % 10, 30, seed), due);
             }
@@ -166,7 +129,7 @@ public final class WalkTest {
         for (int seed = -100; seed < 900; seed += 100) {
             int due = 0;
             for (int i = 0; i < 30; i++) {
-                due += ploughedSpread(seed + i, 2, 4, 1, 2) >= 2 ? 1 : 0;
+                due += Draws.ploughedSpread(seed + i, 2, 4, 1, 2) >= 2 ? 1 : 0;
             }
             Check.same("doubt among others by " + seed, x.doubt(1, 2, 30, seed), due);
         }
