@@ -30,6 +30,9 @@ final class Bounds {
 
     /** Every word under 'Terms' and under the promises is quoted by some test. */
     static void close() {
+        if (!DOC.isThere()) {
+            System.out.println("the document is not there: what is quoted was not looked up");
+        }
         for (String head : DOC.heads()) {
             for (String words : DOC.unquoted(head)) {
                 Check.same(head + ", not quoted by any test: " + words, true, false);
