@@ -5,6 +5,10 @@ import java.util.ArrayList;
 import java.util.LinkedHashMap;
 import java.util.List;
 import java.util.Map;
+import java.util.Set;
+import java.util.TreeSet;
+import java.util.regex.Matcher;
+import java.util.regex.Pattern;
 
 /** The words that stand under each head of the document, and which of them some test has quoted. */
 final class Doc {
@@ -30,6 +34,21 @@ final class Doc {
             throw new IllegalStateException("the document can't be read", e);
         }
         return doc;
+    }
+
+    /** The calls under 'The public face', in their order by letters, without the names of their numbers; empty, if it is not there. */
+    static String face() {
+        Set<String> calls = new TreeSet<>();
+        try {
+            String text = Files.exists(PLACE) ? Files.readString(PLACE) : "";
+            Matcher call = Pattern.compile("(?m)^    public (\\w+ \\w+\\(.*\\).*);$").matcher(text);
+            while (call.find()) {
+                calls.add(call.group(1).replaceAll("\\bint \\w+(?=[,)])", "int").replace(", ", ","));
+            }
+        } catch (IOException e) {
+            throw new IllegalStateException("the document can't be read", e);
+        }
+        return String.join(" ", calls);
     }
 
     private void take(String part) {

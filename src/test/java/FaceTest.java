@@ -2,6 +2,7 @@ import java.lang.reflect.Field;
 import java.lang.reflect.Method;
 import java.lang.reflect.Modifier;
 import java.util.Arrays;
+import java.util.NoSuchElementException;
 import java.util.Set;
 import java.util.TreeSet;
 
@@ -14,6 +15,7 @@ public final class FaceTest {
         + "|int doubt(int,int,int,int)|int fears()|int fear(int,int)|int pots()|int early()|int parts()|int parted()|int label(int)"
         + "|int byteAt(int)|int odds(int,int,int)|int book(int)|int told(int)|int sentence()|int said(int)|boolean image(int)"
         + "|boolean restore(int)|int count(int)";
+    private static final Set<String> THROWING = Set.of("find", "belief", "sure", "gains");
 
     private FaceTest() {
     }
@@ -26,9 +28,16 @@ public final class FaceTest {
             if (!Modifier.isPrivate(m.getModifiers()) && !m.isSynthetic()) {
                 got.add(shape(m));
                 names.add(m.getName());
+                Check.same(m.getName() + " is public and no other's", Modifier.isPublic(m.getModifiers()) && !Modifier.isStatic(m.getModifiers()), true);
+                boolean isThrowing = Arrays.equals(m.getExceptionTypes(), new Class<?>[] {NoSuchElementException.class});
+                Check.same(m.getName() + " tells that it throws", isThrowing, THROWING.contains(m.getName()));
             }
         }
         Check.same("the face", String.join(" ", got), String.join(" ", due));
+        String told = Doc.face();
+        if (!told.isEmpty()) {
+            Check.same("the face that the document tells", told, lines(due));
+        }
         int visible = 0;
         for (Field f : HiddenOrLost.class.getDeclaredFields()) {
             visible += Modifier.isPrivate(f.getModifiers()) ? 0 : 1;
@@ -45,6 +54,16 @@ public final class FaceTest {
             Check.same("private " + m.getName(), Modifier.isPrivate(m.getModifiers()) && names.contains(m.getName()), false);
         }
         Check.close();
+    }
+
+    /** As the document's lines are told by Doc.face(). */
+    private static String lines(Set<String> due) {
+        Set<String> lines = new TreeSet<>();
+        for (String shape : due) {
+            String name = shape.substring(shape.indexOf(' ') + 1, shape.indexOf('('));
+            lines.add(shape + (THROWING.contains(name) ? " throws NoSuchElementException" : ""));
+        }
+        return String.join(" ", lines);
     }
 
     private static String shape(Method m) {
