@@ -1,12 +1,14 @@
 import java.io.IOException;
 import java.lang.reflect.InvocationTargetException;
 import java.lang.reflect.Method;
+import java.lang.reflect.Modifier;
 import java.nio.file.Files;
 import java.nio.file.Path;
+import java.util.List;
 import java.util.regex.Matcher;
 import java.util.regex.Pattern;
 
-/** The calls that README.md shows answer what stands beside them. */
+/** The calls that README.md shows answer what stands beside them, and its table tells of each call how it is refused. */
 public final class ReadmeTest {
     private static final Pattern CALL = Pattern.compile("^x\\.(\\w+)\\((.*?)\\); +// (\\w+)");
 
@@ -14,9 +16,16 @@ public final class ReadmeTest {
     }
 
     public static void main(String[] args) throws IOException, IllegalAccessException, InvocationTargetException {
+        List<String> lines = Files.readAllLines(Path.of("README.md"));
+        for (Method m : HiddenOrLost.class.getDeclaredMethods()) {
+            if (Modifier.isPublic(m.getModifiers())) {
+                boolean isTold = lines.stream().anyMatch(line -> line.startsWith("|") && line.contains("`" + m.getName() + "`"));
+                Check.same("how " + m.getName() + " is refused is told", isTold, true);
+            }
+        }
         HiddenOrLost x = new HiddenOrLost();
         int shown = 0;
-        for (String line : Files.readAllLines(Path.of("README.md"))) {
+        for (String line : lines) {
             Matcher call = CALL.matcher(line);
             if (call.find()) {
                 Check.same(line, answer(x, call.group(1), call.group(2)), call.group(3));
